@@ -171,7 +171,7 @@ public final class TrueHeard {
             return STATE;
         }
         // THE IMAGE holds the same WAYS: another one comes in its place, so that none ever changes.
-        world.ways[way] = new Bribed(runner.number, runner.v, runner.hours, runner.cost, n, trace);
+        world.replaceWay(way, new Bribed(runner.number, runner.v, runner.hours, runner.cost, n, trace));
         return runner.hoursSat();
     }
 
@@ -428,8 +428,13 @@ public final class TrueHeard {
 
     /** A part of so many of ALL_PARTS, in lowest terms: below the line there is a power of 2 alone. */
     private static long partOf(long parts, int part) {
-        int halvings = Math.min(ALL_HALVINGS, Long.numberOfTrailingZeros(parts));
-        return (part == 0 ? parts : ALL_PARTS) >> halvings;
+        long above = parts;
+        long below = ALL_PARTS;
+        for (int i = 0; i < ALL_HALVINGS && above % 2 == 0; i++) {
+            above /= 2;
+            below /= 2;
+        }
+        return part == 0 ? above : below;
     }
 
     // ---- rows
@@ -595,7 +600,7 @@ public final class TrueHeard {
 
         /** COASTS, SAYINGS and WAYS never change once they are made: both may hold the same ones. */
         void copy(World other) {
-            System.arraycopy(other.tape, 0, tape, 0, SIGNS);
+            System.arraycopy(other.tape, 0, tape, 0, Math.min(other.tape.length, tape.length));
             signs = other.signs;
             coast = other.coast;
             coasts = other.coasts;
@@ -626,6 +631,12 @@ public final class TrueHeard {
 
         Runner wayAt(int number) {
             return number >= 0 && number < wayCount && number < ways.length ? ways[number] : null;
+        }
+
+        void replaceWay(int number, Runner way) {
+            if (number >= 0 && number < ways.length) {
+                ways[number] = way;
+            }
         }
 
         /** How many rows of STATES the THINGS could have. */

@@ -75,6 +75,16 @@ public final class PromisesTest {
         }
     }
 
+    /** THING 0 goes 1 on from HOUR 1, 2 from HOUR 2; WAYS that take 3 and 2 HOURS. */
+    private static TrueHeard tide() {
+        TrueHeard x = new TrueHeard();
+        coast(x, "turn 1 h=1;turn 2 h=2");
+        x.thing(0);
+        x.way(0, 0, 3, 0);
+        x.way(0, 0, 2, 0);
+        return x;
+    }
+
     private static void promise1() {
         TrueHeard x = new TrueHeard();
         counts(x, 0, 0, 0, 0, 0, 0, 0);
@@ -123,6 +133,9 @@ public final class PromisesTest {
         due("turn and a line's end", coast(x, "turn\n1 t=0"), -14);
         due("two blanks", coast(x, "turn  1 t=0"), -15);
         due("no number", coast(x, "turn t=0"), -15);
+        due("a : behind 9", coast(x, "turn : t=0"), -15);
+        due("a : as the second digit", coast(x, "turn 1: t=0"), -16);
+        due("a / ahead of 0", coast(x, "turn 1/ t=0"), -16);
         due("three digits", coast(x, "dear 100 t=0"), -17);
         due("0 ahead", coast(x, "dear 00 t=0"), -16);
         due("no E", coast(x, "turn 1 "), -17);
@@ -141,6 +154,11 @@ public final class PromisesTest {
         due("6 open", coast(x, "turn 1 !(!(!(t=0"), -22);
         due("6 open, ( last", coast(x, "turn 1 (((!(("), -22);
         due("no COAST by a FAULT", x.count(3), 0);
+        for (int i = 0; i < 12; i++) {
+            due("what was read leaves nothing", coast(x, "turn 1 !t=1&!s=1|!h=1&!k=1;"), -37);
+        }
+        due("a COAST behind them", coast(x, "turn 7 !t=1&!s=0"), 0);
+        due("its TURNS", x.of(0, 1), 7);
         due("the TAPE is empty by a FAULT", x.count(5), 0);
         coastsThatStand();
         coastsThatHold();
@@ -188,12 +206,18 @@ public final class PromisesTest {
         due("e", saying(x, "e=1"), -10);
         due("ends with ;", saying(x, "a=1;"), -13);
         due("three digits", saying(x, "a=123"), -14);
+        due("a :", saying(x, "a=:"), -12);
+        due("a : as the second digit", saying(x, "a=1:"), -13);
+        due("capitals", saying(x, "A=1"), -10);
         due("ends with |", saying(x, "a=1|"), -14);
         due("6 open", saying(x, "!!!!!!a=1"), -15);
         due("a 6th within a (", saying(x, "!!!!(!a=1"), -15);
         due("a ! is open till its F ends", saying(x, "!!!!!a=1&!!!!!!b=1"), -24);
         due("the TAPE is empty by a FAULT", x.count(5), 0);
         due("none by a FAULT", x.count(2), 0);
+        for (int i = 0; i < 12; i++) {
+            due("what was read leaves nothing", saying(x, "!a=1&!b=1|!c=1&!d=1|!h=1;"), -34);
+        }
         due("5 open, twice", saying(x, "!!!!!a=1&!!!!!b=1|(((((h<99)))))"), 0);
         due("the TAPE is empty then", x.count(5), 0);
         due("b", saying(x, "a=9&b=9&c=9&d=9"), 1);
@@ -441,6 +465,10 @@ public final class PromisesTest {
         due("no part", x.odds(0, 0, 2), NO);
         due("no part -1", x.odds(0, 0, -1), NO);
         due("nothing changed", x.of(0, 0) + x.now(), 0);
+        TrueHeard y = tide();
+        saying(y, "a=3&h=3|a=1&h=2");
+        odds(y, 0, 0, 1, 1);
+        odds(y, 0, 1, 1, 1);
         longestOdds();
     }
 
@@ -497,6 +525,9 @@ public final class PromisesTest {
         due("any", x.tell(1, 2), 15);
         x.heed(3, 0);
         due("not by HEED", x.tell(3, 0), 8);
+        TrueHeard y = tide();
+        due("each HOUR as it will be", y.tell(0, 0), 1 << 3);
+        due("the last one does not count", y.tell(0, 1), 1 << 1);
         due("no THING", x.tell(4, 0), NONE);
         due("no THING -1", x.tell(-1, 0), NONE);
         due("no WAY", x.tell(0, 3), NONE);
@@ -795,6 +826,8 @@ public final class PromisesTest {
         rows(x, -5, 0, 1, 2, 3);
         x.put(0, 3);
         rows(x, 0, 0, 1, 2, 3);
+        rows(tide(), -5, 0, 0, 1, 3, 3);
+        rows(tide(), 2, 0, 0, 2);
     }
 
     private static void promise27() {
@@ -919,7 +952,7 @@ public final class PromisesTest {
         x.put(0, 0);
         x.way(2, 0, 0, 0);
         x.bribe(0, 6);
-        x.heed(1, 3);
+        x.heed(1, 1);
         x.row(-1);
         x.row(3);
         x.row(3);
