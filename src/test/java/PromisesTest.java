@@ -1,78 +1,10 @@
 /** Each promise of the document by itself, with answers reckoned by hand: ordinary calls, edges, wrong inputs. */
-public final class PromisesTest {
-    private static final long NO = TrueHeard.NO;
-    private static final int NONE = -1, BAD = -2, STATE = -3, FULL = -4;
-    private static final int MIN = Integer.MIN_VALUE, MAX = Integer.MAX_VALUE;
-
-    private static int wrong;
-    private static int asked;
-    private static int promise;
-
-    private static void due(String call, long got, long want) {
-        asked++;
-        if (got != want) {
-            wrong++;
-            System.out.println("promise " + promise + ": " + call + " answered " + got + ", due is " + want);
-        }
-    }
-
-    private static void feed(TrueHeard x, String text) {
-        for (int i = 0; i < text.length(); i++) {
-            x.feed(text.charAt(i));
-        }
-    }
-
-    private static int coast(TrueHeard x, String text) {
-        feed(x, text);
-        return x.coast();
-    }
-
-    private static int saying(TrueHeard x, String text) {
-        feed(x, text);
-        return x.saying();
-    }
-
-    private static void hours(TrueHeard x, int n) {
-        for (int i = 0; i < n; i++) {
-            x.hour(0);
-        }
-    }
-
+public final class PromisesTest extends Dues {
     /** THING 0 goes 1 on each HOUR, THING 1 by even odds, THING 2 surely by drift, THING 3 stays; BELLS are dear. */
     private static TrueHeard sea() {
         TrueHeard x = new TrueHeard();
         coast(x, "turn 1 t=0;drift 1 t=1;drift 2 t=2;dear 5 k=1");
         return x;
-    }
-
-    private static void things(TrueHeard x, int... states) {
-        for (int state : states) {
-            x.thing(state);
-        }
-    }
-
-    private static void odds(TrueHeard x, int saying, int way, long above, long below) {
-        due("odds(" + saying + ", " + way + ", 0)", x.odds(saying, way, 0), above);
-        due("odds(" + saying + ", " + way + ", 1)", x.odds(saying, way, 1), below);
-    }
-
-    private static void self(TrueHeard x, int what, long above, long below) {
-        due("self(0, 0, " + what + ", 0)", x.self(0, 0, what, 0), above);
-        due("self(0, 0, " + what + ", 1)", x.self(0, 0, what, 1), below);
-    }
-
-    private static void trace(TrueHeard x, int... bodies) {
-        due("count(6)", x.count(6), bodies.length);
-        for (int i = 0; i < bodies.length; i++) {
-            due("trace(" + i + ")", x.trace(i), bodies[i]);
-        }
-        due("trace past its end", x.trace(bodies.length), NONE);
-    }
-
-    private static void counts(TrueHeard x, int... counts) {
-        for (int i = 0; i < counts.length; i++) {
-            due("count(" + i + ")", x.count(i), counts[i]);
-        }
     }
 
     /** THING 0 goes 1 on from HOUR 1, 2 from HOUR 2; WAYS that take 3 and 2 HOURS. */
@@ -613,7 +545,6 @@ public final class PromisesTest {
         due("no SAYING -1", x.sit(-1, 0), NONE);
         due("no WAY", x.sit(0, 2), NONE);
         due("no WAY -1", x.sit(0, -1), NONE);
-        saying(new TrueHeard(), "a=0");
         TrueHeard y = new TrueHeard();
         y.way(0, 0, 0, 0);
         saying(y, "a=9");
@@ -659,11 +590,6 @@ public final class PromisesTest {
         due("a FIRE by night", x.all(0), 3);
         due("all(2)", x.all(2), NONE);
         due("all(-1)", x.all(-1), NONE);
-    }
-
-    private static void begins(TrueHeard x, int saying, int many, int least) {
-        due("begin(" + saying + ", 0, 0)", x.begin(saying, 0, 0), many);
-        due("begin(" + saying + ", 0, 1)", x.begin(saying, 0, 1), least);
     }
 
     private static void promise21() {
@@ -793,14 +719,6 @@ public final class PromisesTest {
         due("row(-1)", x.row(-1), 0);
         due("none", x.count(4), 0);
         due("row(3)", x.row(3), 1);
-    }
-
-    private static void rows(TrueHeard x, int want, int... states) {
-        x.row(-1);
-        for (int state : states) {
-            x.row(state);
-        }
-        due("looked()", x.looked(), want);
     }
 
     private static void promise26() {
@@ -1044,13 +962,12 @@ public final class PromisesTest {
             PromisesTest::promise25, PromisesTest::promise26, PromisesTest::promise27, PromisesTest::promise28,
             PromisesTest::promise29, PromisesTest::promise30, PromisesTest::promise31, PromisesTest::promise32,
         };
+        int promise = 0;
         for (Runnable one : promises) {
             promise++;
+            about("promise " + promise);
             one.run();
         }
-        System.out.println(asked + " answers looked at, " + wrong + " not as due");
-        if (wrong != 0) {
-            System.exit(1);
-        }
+        end();
     }
 }
