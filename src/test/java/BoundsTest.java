@@ -715,6 +715,16 @@ public final class BoundsTest extends Dues {
         due("18 HOURS at most", y.sit(1, 0), 6);
         due("19 are too many", y.sit(2, 0), -5);
         due("SITS stays", y.at(0, 6), 6);
+        about("SIT without THINGS, HOURS on");
+        TrueHeard z = with("turn 1 t<4");
+        z.way(RUNNER, 0, 0, 0);
+        saying(z, "h=4");
+        for (int hour = 0; hour <= 4; hour++) {
+            due("at HOUR " + hour, z.sit(0, 0), 4 - hour);
+            begins(z, 0, hour == 4 ? 1 : 0, hour == 4 ? 0 : -5);
+            z.hour(15);
+        }
+        due("at HOUR 5: by none", z.sit(0, 0), -5);
     }
 
     // ---- 2: catch, all, begin
@@ -919,6 +929,25 @@ public final class BoundsTest extends Dues {
         due("BRIBED tells MAX", y.act(2, 2, MAX), 2 ^ 7);
     }
 
+    /** Where the bits of both are set, ^ is neither | nor +. */
+    private static void bitsOfActs() {
+        about("TOWED: super.sends(x) ^ i; FIRE: super.tells(x) ^ 7");
+        TrueHeard x = new TrueHeard();
+        for (int i = 0; i < 4; i++) {
+            x.way(TOWED, 0, 0, 0);
+        }
+        x.way(FIRE, 0, 0, 0);
+        for (int i = 0; i < 4; i++) {
+            due("TOWED " + i + " sends 0: its number and itself", x.act(i, 0, 0), 0);
+            due("TOWED " + i + " sends -i - 1: all bits but its own", x.act(i, 0, -i - 1), -1 - i);
+        }
+        due("TOWED 3 sends 4: 7 ^ 3", x.act(3, 0, 4), 4);
+        due("TOWED 3 sends 5: 8 ^ 3", x.act(3, 0, 5), 11);
+        due("FIRE 4 tells 0: 8 ^ 7", x.act(4, 2, 0), 15);
+        due("FIRE 4 tells -1: 6 ^ 7", x.act(4, 2, -1), 1);
+        due("FIRE 4 tells -5: -2 ^ 7", x.act(4, 2, -5), -7);
+    }
+
     private static void traceKept() {
         about("THE TRACE: the numbers of the bodies that ran in the latest act(); the first 20 are kept");
         TrueHeard x = new TrueHeard();
@@ -968,7 +997,7 @@ public final class BoundsTest extends Dues {
             BoundsTest::sayingsAtMost, BoundsTest::heard, BoundsTest::lowestTerms, BoundsTest::surely,
             BoundsTest::tells, BoundsTest::which, BoundsTest::worth, BoundsTest::sit, BoundsTest::catches,
             BoundsTest::all, BoundsTest::begin, BoundsTest::heed, BoundsTest::back, BoundsTest::rowAtMost,
-            BoundsTest::looked, BoundsTest::wraps, BoundsTest::traceKept, BoundsTest::atOnce,
+            BoundsTest::looked, BoundsTest::wraps, BoundsTest::bitsOfActs, BoundsTest::traceKept, BoundsTest::atOnce,
         };
         for (Runnable one : bounds) {
             one.run();
