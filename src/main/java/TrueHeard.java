@@ -881,22 +881,17 @@ public final class TrueHeard {
             return true;
         }
 
-        /** F, so many of ! and ( being open. */
+        /** F, so many of ! and ( being open; nothing goes on with a ! or ( too many, as no TEST begins so. */
         private boolean readOne(int open) {
-            if (sign() != '!' && sign() != '(') {
-                return readTest();
+            int within = open;
+            while (within < OPEN && goOn('!')) {
+                within++;
             }
-            if (open >= OPEN) {
-                return false;
+            boolean read = within < OPEN && goOn('(') ? readAny(within + 1) && goOn(')') : readTest();
+            for (int nots = open; nots < within; nots++) {
+                add(Clause.NOT);
             }
-            if (goOn('(')) {
-                return readAny(open + 1) && goOn(')');
-            }
-            if (!goOn('!') || !readOne(open + 1)) {
-                return false;
-            }
-            add(Clause.NOT);
-            return true;
+            return read;
         }
 
         private boolean readTest() {

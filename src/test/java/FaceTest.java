@@ -110,6 +110,21 @@ public final class FaceTest {
             must(imports.group(1).equals("java.util.Arrays"), "no import of " + imports.group(1));
         }
         lengths(source);
+        callsItself(code);
+    }
+
+    /** Only methods that are private and static may; a body that goes to the KIND above by super does not. */
+    private static void callsItself(String code) {
+        String name = "";
+        for (String line : code.split("\n")) {
+            Matcher head = Pattern.compile(" {4}(?: {4})?[a-z].*?(\\w+)\\([^()]*\\) \\{").matcher(line);
+            if (head.matches()) {
+                name = line.contains("private static ") ? "" : head.group(1);
+            } else if (!name.isEmpty()) {
+                boolean calls = Pattern.compile("(?<![.\\w])" + name + "\\(").matcher(line).find();
+                must(!calls, name + " calls itself: " + line.trim());
+            }
+        }
     }
 
     private static void lengths(String source) {

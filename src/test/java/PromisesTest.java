@@ -94,6 +94,7 @@ public final class PromisesTest extends Dues {
         due("the TAPE is empty by a FAULT", x.count(5), 0);
         coastsThatStand();
         coastsThatHold();
+        longCoasts();
     }
 
     private static void coastsThatStand() {
@@ -126,6 +127,29 @@ public final class PromisesTest extends Dues {
         due("the TAPE stays when FULL", x.count(5), 1);
         due("FULL again", x.coast(), FULL);
         due("5 COASTS", x.count(3), 5);
+    }
+
+    /** Each as long as THE TAPE: what one was read from, with a FAULT or without, leaves nothing to the next. */
+    private static void longCoasts() {
+        TrueHeard x = new TrueHeard();
+        things(x, 0, 1);
+        String tests = " t=9" + "|t=9".repeat(21);
+        for (int i = 1; i <= 4; i++) {
+            boolean fault = i == 1;
+            due("a long FAULT or COAST", coast(x, "turn " + i + tests + (fault ? "|t=00" : "|t=0")), fault ? -108 : i - 2);
+            due("TURNS of 0 by it", x.of(0, 1), fault ? 0 : i);
+            due("TURNS of 1 by it", x.of(1, 1), 0);
+        }
+        TrueHeard y = new TrueHeard();
+        things(y, 0, 1);
+        for (int i = 1; i <= 4; i++) {
+            String clauses = "turn " + i + " t=9" + "|t=9".repeat(8) + "|t=0;drift 1 t=9" + "|t=9".repeat(6) + "|t=1";
+            due("a long COAST of two CLAUSES", coast(y, clauses), i - 1);
+            due("TURNS of 0 by it", y.of(0, 1), i);
+            due("DRIFT of 0 by it", y.of(0, 2), 0);
+            due("TURNS of 1 by it", y.of(1, 1), 0);
+            due("DRIFT of 1 by it", y.of(1, 2), 1);
+        }
     }
 
     private static void promise4() {
